@@ -18,6 +18,16 @@ final class Checks {
         is(what, got ? 1 : 0, due ? 1 : 0);
     }
 
+    static void right() {
+        checks++;
+    }
+
+    static void wrong(String what) {
+        checks++;
+        wrong++;
+        System.out.println(what);
+    }
+
     static void fails(String what, Class<? extends RuntimeException> due, Runnable call) {
         checks++;
         String got = "nothing";
