@@ -332,6 +332,59 @@ final class PromisesOfMastersTest {
                 addValue 1 1 1 31 = 1
                 areAlike 0 1 = false
                 """);
+        SAYS.hold("values, links", """
+                -- the least code and the greatest one, of an entry and of the next one
+                addValue 0 2 0 0 = 1
+                addValue 0 2 3 999 = 1
+                exchange 0 1 250 = 2
+                areAlike 0 1 = true
+                replace 0 2 3 998 = 1
+                areAlike 0 1 = false
+                replace 0 2 3 999 = 1
+                areAlike 0 1 = true
+                replace 0 2 0 1 = 1
+                areAlike 0 1 = false
+                areAlike 1 0 = false
+                replace 1 2 0 1 = 1
+                addValue 0 3 0 7 = 1
+                addValue 1 3 0 8 = 1
+                areAlike 0 1 = false
+                -- the same values of unlike entries
+                replace 1 3 0 7 = 1
+                areAlike 0 1 = true
+                removeValue 0 3 0 7 = 0
+                addValue 0 4 0 7 = 1
+                areAlike 0 1 = false
+                """);
+        SAYS.hold("the same live entries, at the same places", """
+                -- what a deleted one had does not count
+                rule 0 4 3 0 0 DENY = NOTHING
+                rule 0 4 3 2 1 ALLOW = NOTHING
+                addValue 0 4 0 0 = 1
+                each 0 1: delete # 4 = 1
+                areAlike 0 1 = true
+                rule 0 3 3 0 0 DENY = NOTHING
+                each 0 1: delete # 3 = 2
+                areAlike 0 1 = true
+                """);
+        SAYS.hold("and rules", """
+                for 0 2: rule 0 1 3 # 0 DENY = NOTHING
+                areAlike 0 1 = false
+                for 1 2: rule 0 1 3 # 0 NOTHING = DENY
+                areAlike 0 1 = false
+                rule 0 1 3 0 0 NOTHING = DENY
+                areAlike 0 1 = true
+                rule 0 1 3 2 1 DENY = NOTHING
+                areAlike 0 1 = false
+                rule 1 1 3 2 1 ALLOW = NOTHING
+                areAlike 0 1 = false
+                rule 1 1 3 2 1 DENY = ALLOW
+                areAlike 0 1 = true
+                rule 0 4 ALL 0 1 ALLOW = NOTHING
+                areAlike 0 1 = false
+                rule 1 4 3 0 1 ALLOW = NOTHING
+                areAlike 0 1 = false
+                """);
         SAYS.hold("links and rules", """
                 link 0 1 4 = NONE
                 areAlike 0 1 = false

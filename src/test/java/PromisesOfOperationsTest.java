@@ -52,6 +52,26 @@ final class PromisesOfOperationsTest {
                 each 1 2 3: exchange 0 # 250 = 0
                 each -1 4: live # = noSuch
                 """);
+        SAYS.hold("The root alone", """
+                -- an empty tree, and an empty log
+                objectClass NONE 0 0 = 0
+                ofClass 0 = 1
+                each 0 1 2: search 0 0 # = 0
+                each 0 1 2: follow 0 0 # = 0
+                not = 1
+                each 0 2: search 3 0 # = 1
+                each 0 2: searchByWalk 3 0 # = 1
+                each 0 2: follow 3 0 # = 1
+                found 0 = 300
+                search 3 0 1 = 0
+                searchByWalk 3 0 1 = 0
+                follow 3 0 1 = 0
+                each 0 1 2 3: parentOf # 0 = NONE
+                each 0 1 2 3: parentAnew # 0 = NONE
+                each 0 1 2 3: serve # 0 = 0
+                each 0 1 2 3: may # 5 0 0 = true
+                each 0 1 2 3: may # 5 0 1 = false
+                """);
         SAYS.hold("no attributes and classes", """
                 each -1 0 1: draft # 0 = noSuch
                 each -1 0 1: equal # 0 = noSuch

@@ -263,6 +263,8 @@ final class PromisesOfSearchesTest {
                 combine true = 1
                 search 0 0 2 = 1
                 found 0 = 2
+                searchByWalk 0 0 2 = 1
+                follow 0 0 2 = 1
                 """);
         SAYS.hold("whether both have to apply, otherwise one at least", """
                 each 0 1: has #
@@ -311,8 +313,12 @@ final class PromisesOfSearchesTest {
                 search 0 0 2 = 2
                 found 0 = 0
                 found 1 = 1
+                searchByWalk 0 0 2 = 2
+                follow 0 0 2 = 2
                 not = 1
                 search 0 0 2 = 3
+                searchByWalk 0 0 2 = 3
+                follow 0 0 2 = 3
                 """);
         SAYS.hold("Returns how many filters the draft has.", EIGHT + """
                 not = 8
@@ -383,6 +389,23 @@ final class PromisesOfSearchesTest {
                 removeValue 0 4 0 999 = 0
                 search 0 0 2 = 0
                 """);
+        SAYS.hold("Searches by indexes", """
+                -- also of what is got late: the value 5 goes, and 6 comes
+                addValue 0 4 2 5 = 1
+                addValue 1 4 2 6 = 1
+                wipe = 1
+                equal 2 5 = 1
+                search 0 0 2 = 1
+                exchange 1 0 250 = 1
+                search 0 0 2 = 0
+                wipe = 1
+                equal 2 6 = 1
+                search 0 0 2 = 1
+                -- and of what is deleted so
+                delete 1 4 = 1
+                exchange 1 0 250 = 1
+                search 0 0 2 = 0
+                """);
         SAYS.hold("`master`: 0 to 3", """
                 each 0 3: search # 0 2 = 4
                 found 3 = 304
@@ -415,6 +438,20 @@ final class PromisesOfSearchesTest {
                 each 1 47: search 0 # 2 = 1
                 found 0 = 47
                 each -1 LOST 48 64 MIN MAX: search 0 # 2 = noSuch
+                """);
+        SAYS.of("Promise 25", Preludes.FULL_SCHEMA + """
+                for 1 47: add 0 #-1 0 # = #
+                has 0 = 1
+                not = 1
+                """);
+        SAYS.hold("Returns how many entries it finds", """
+                -- as deep as can be
+                search 0 0 2 = 48
+                found 47 = 47
+                search 0 1 2 = 47
+                search 0 46 2 = 2
+                search 0 47 2 = 1
+                search 0 46 1 = 1
                 """);
     }
 

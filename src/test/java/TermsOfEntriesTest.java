@@ -14,6 +14,7 @@ final class TermsOfEntriesTest {
         entries();
         root();
         rules();
+        subjects();
         operationsMakeChanges();
         stamps();
         orderOfChanges();
@@ -361,6 +362,22 @@ final class TermsOfEntriesTest {
                 rule 0 1 3 0 1 NOTHING = NOTHING
                 rule 0 1 3 0 0 DENY = DENY
                 """);
+        SAYS.hold("with a scope and a right: it allows, denies, or says nothing", """
+                for 0 4: rule 0 # 3 0 1 ALLOW = NOTHING
+                for 0 4: rule 0 # 3 1 0 NOTHING = NOTHING
+                for 0 4: rule 0 # 3 0 0 DENY = NOTHING
+                for 0 4: rule 0 # 3 2 1 ALLOW = NOTHING
+                for 0 4: rule 0 # 3 1 1 NOTHING = NOTHING
+                for 0 4: rule 0 # 3 2 0 DENY = NOTHING
+                for 0 4: rule 0 # 3 1 0 ALLOW = NOTHING
+                for 0 4: rule 0 # 3 1 1 DENY = NOTHING
+                for 0 4: rule 0 # 3 0 0 NOTHING = DENY
+                for 0 4: rule 0 # 3 0 1 NOTHING = ALLOW
+                for 0 4: rule 0 # 3 1 0 NOTHING = ALLOW
+                for 0 4: rule 0 # 3 1 1 NOTHING = DENY
+                for 0 4: rule 0 # 3 2 0 NOTHING = DENY
+                for 0 4: rule 0 # 3 2 1 NOTHING = ALLOW
+                """);
         SAYS.hold("A subject is a user, a group, which is an entry, or everybody", """
                 each 0 5: rule 0 0 # 0 0 ALLOW = NOTHING
                 each 100 104: rule 0 0 # 0 0 ALLOW = NOTHING
@@ -393,6 +410,21 @@ final class TermsOfEntriesTest {
                 equal 0 0 = 1
                 not = 1
                 search 0 1 0 = 0
+                """);
+    }
+
+    private static void subjects() {
+        SAYS.of("Entries", Preludes.FULL_TREE);
+        SAYS.hold("A subject is a user, a group, which is an entry, or everybody", """
+                -- each one is another one
+                rule 0 1 ALL 0 0 DENY = NOTHING
+                for 100 147: rule 0 1 # 0 0 NOTHING = NOTHING
+                for 0 5: rule 0 1 # 0 0 NOTHING = NOTHING
+                for 100 147: rule 0 2 # 0 0 ALLOW = NOTHING
+                for 0 5: rule 0 2 # 0 0 DENY = NOTHING
+                rule 0 2 ALL 0 0 DENY = NOTHING
+                for 100 147: rule 0 2 # 0 0 ALLOW = ALLOW
+                for 0 5: rule 0 2 # 0 0 DENY = DENY
                 """);
     }
 
@@ -626,6 +658,20 @@ final class TermsOfEntriesTest {
                 each 0 1: valuesAnew # 1 2 = 1
                 each 0 1: valueAt # 1 3 0 = 500
                 each 0 1: valuesAnew # 1 3 = 1
+                """);
+        SAYS.hold("if it is single, its values go", """
+                -- the least and the greatest value, and none of the attributes beside it
+                each 1 4: addValue 0 # 1 999 = 1
+                each 1 4: addValue 0 # 3 0 = 1
+                exchange 0 1 250 = 4
+                addValue 0 1 2 0 = 1
+                addValue 0 4 2 999 = 1
+                each 1 4: addValue 1 # 2 500 = 1
+                exchange 0 1 250 = 2
+                each 1 4: valueAt 1 # 2 0 = 500
+                each 1 4: valuesAnew 1 # 2 = 1
+                each 1 4: valueAt 1 # 1 0 = 999
+                each 1 4: valueAt 1 # 3 0 = 0
                 """);
         SAYS.hold("otherwise those that match the value go", """
                 addValue 0 1 1 40 = 1

@@ -400,6 +400,31 @@ final class TermsOfMastersTest {
                 exchange 0 3 250 = 2
                 nameOf 3 4 = 4
                 """);
+        SAYS.hold("in order, as many", """
+                -- the first one in order was made last
+                add 3 0 0 7 = 5
+                add 2 0 0 8 = 6
+                exchange 3 1 250 = 1
+                exchange 2 1 250 = 1
+                exchange 0 1 250 = 4
+                exchange 1 2 1 = 1
+                nameOf 2 1 = 1
+                exchange 1 3 2 = 2
+                nameOf 3 6 = 8
+                nameOf 3 2 = noSuch
+                """);
+        SAYS.of("Exchange", Preludes.SCHEMA);
+        SAYS.hold("in order, as many", """
+                -- the first one of all was made last
+                add 3 0 0 7 = 1
+                add 0 0 0 8 = 2
+                exchange 3 1 250 = 1
+                exchange 0 1 250 = 1
+                exchange 1 2 1 = 1
+                nameOf 2 2 = 8
+                nameOf 2 1 = noSuch
+                """);
+        SAYS.of("Exchange", Preludes.TREE);
         SAYS.hold("as many as are told at most", """
                 exchange 0 1 0 = 0
                 live 1 = 1

@@ -275,6 +275,17 @@ final class TermsOfSearchesTest {
                 wipe = 1
                 atLeast 1 60 = 1
                 search 0 0 2 = 0
+                -- not by the values of the next attribute
+                wipe = 1
+                addValue 0 4 1 0 = 1
+                addValue 0 4 2 1 = 1
+                atLeast 0 999 = 1
+                search 0 0 2 = 0
+                searchByWalk 0 0 2 = 0
+                wipe = 1
+                atLeast 1 60 = 1
+                search 0 0 2 = 0
+                searchByWalk 0 0 2 = 0
                 -- one of several values is enough, though others are less
                 addValue 0 3 1 60 = 2
                 search 0 0 2 = 1
@@ -321,10 +332,40 @@ final class TermsOfSearchesTest {
                 combine true = 1
                 search 0 0 2 = 1
                 found 0 = 2
+                searchByWalk 0 0 2 = 1
+                follow 0 0 2 = 1
+                found 0 = 2
                 wipe = 3
                 each 5 6: equal 0 #
                 combine false = 1
                 search 0 0 2 = 3
+                searchByWalk 0 0 2 = 3
+                follow 0 0 2 = 3
+                """);
+        SAYS.hold("both of two filters", """
+                -- neither, the first one, the other one, both
+                each 2 4: addValue 0 # 0 5 = 1
+                each 3 4: addValue 0 # 0 6
+                each 5 6: equal 0 #
+                combine true = 1
+                for 1 3: search 0 # 0 = 0
+                for 1 3: searchByWalk 0 # 0 = 0
+                for 1 3: follow 0 # 0 = 0
+                search 0 4 0 = 1
+                searchByWalk 0 4 0 = 1
+                follow 0 4 0 = 1
+                """);
+        SAYS.hold("one at least of two", """
+                each 2 4: addValue 0 # 0 5 = 1
+                each 3 4: addValue 0 # 0 6
+                each 5 6: equal 0 #
+                combine false = 1
+                search 0 1 0 = 0
+                searchByWalk 0 1 0 = 0
+                follow 0 1 0 = 0
+                for 2 4: search 0 # 0 = 1
+                for 2 4: searchByWalk 0 # 0 = 1
+                for 2 4: follow 0 # 0 = 1
                 """);
         SAYS.hold("not a filter", """
                 addValue 0 1 0 5 = 1
@@ -332,8 +373,30 @@ final class TermsOfSearchesTest {
                 not = 1
                 -- the root and seven more
                 search 0 0 2 = 8
+                searchByWalk 0 0 2 = 8
+                follow 0 0 2 = 8
                 not = 1
                 search 0 0 2 = 1
+                searchByWalk 0 0 2 = 1
+                follow 0 0 2 = 1
+                """);
+        SAYS.hold("A filter is", """
+                -- filters of filters of filters: one of these two, and not that one; the order counts
+                each 1 2 3: addValue 0 # 0 #
+                addValue 0 2 0 9 = 2
+                equal 0 9 = 1
+                each 1 2: equal 0 #
+                combine false = 2
+                search 0 0 2 = notTaken
+                not = 2
+                combine false = 1
+                search 0 0 2 = 8
+                searchByWalk 0 0 2 = 8
+                follow 0 0 2 = 8
+                not = 1
+                search 0 0 2 = 1
+                found 0 = 1
+                searchByWalk 0 0 2 = 1
                 """);
     }
 
@@ -375,6 +438,26 @@ final class TermsOfSearchesTest {
                 combine false = 1
                 not = 1
                 wipe = 6
+                """);
+        SAYS.hold("at most 8, of at most 15 parts together", """
+                -- all of them in one filter: both 6 and 7, or one at least of 0 to 5
+                add 0 0 0 1 = 1
+                each 6 7: addValue 0 1 0 #
+                each 0 1 2 3 4 5 6 7: equal 0 #
+                combine true = 7
+                each 6 5 4 3 2: combine false = #
+                combine false = 1
+                search 0 1 0 = 1
+                searchByWalk 0 1 0 = 1
+                follow 0 1 0 = 1
+                removeValue 0 1 0 7 = 1
+                search 0 1 0 = 0
+                searchByWalk 0 1 0 = 0
+                follow 0 1 0 = 0
+                addValue 0 1 0 0 = 2
+                search 0 1 0 = 1
+                searchByWalk 0 1 0 = 1
+                wipe = 15
                 """);
     }
 
