@@ -404,5 +404,21 @@ final class PromisesOfMastersTest {
                 rule 0 3 104 0 1 NOTHING = ALLOW
                 areAlike 0 1 = true
                 """);
+        SAYS.of("Promise 41", Preludes.FULL_TREE);
+        SAYS.hold("names, classes, values", """
+                -- the last value of the last attribute of the last entry
+                addValue 0 47 9 999 = 1
+                areAlike 0 1 = false
+                areAlike 1 0 = false
+                exchange 0 1 250 = 1
+                areAlike 0 1 = true
+                addValue 0 47 9 998 = 2
+                removeValue 0 47 9 999 = 1
+                areAlike 0 1 = false
+                addValue 1 47 9 998 = 2
+                areAlike 0 1 = false
+                removeValue 1 47 9 999 = 1
+                areAlike 0 1 = true
+                """);
     }
 }
